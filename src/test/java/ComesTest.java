@@ -146,6 +146,12 @@ public final class ComesTest {
         x = Due.laid("n3;r0,1,1;r0,2,2;r1,2,2;p0,2,0;w0,2;");
         Due.is("either would do: how many", x.cover(0), 1);
         Due.is("either would do: the lowest", x.cover(1), 1);
+        x = Due.laid("n4;r0,2,1;r0,1,2;r1,3,3;r2,3,5;p2,0,0;p1,1,50;w0,3;");
+        Due.is("fewest, not the lowest: how many", x.cover(0), 1);
+        Due.is("fewest, not the lowest: which", x.cover(1), 4);
+        x = Due.laid("n3;r0,1,1;r0,2,2;p2,1,0;p2,0,0;w0,2;");
+        Due.is("plain ones, whatever stood: how many", x.cover(0), 1);
+        Due.is("plain ones, whatever stood: which", x.cover(1), 1);
         x = Due.laid("n3;r0,1,1;p0,2,0;w0,1;w1,0;");
         Due.is("no post is needed: how many", x.cover(0), 0);
         Due.is("no post is needed: which", x.cover(1), 0);

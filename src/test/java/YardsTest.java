@@ -18,6 +18,7 @@ public final class YardsTest {
         faultOfShape();
         lay();
         layForgets();
+        layAfterTrials();
         layRefused();
         layTellsPaths();
         road();
@@ -207,6 +208,31 @@ public final class YardsTest {
         Due.is("kinds() laid anew", x.kinds(0), 15);
     }
 
+    /** What was tried ahead of it leaves nothing in what is laid. */
+    private static void layAfterTrials() {
+        SignpostYard x = new SignpostYard();
+        x.pass(3);
+        x.year();
+        Due.write(x, "p0,1,0;w0,1;");
+        x.likely(3, 5, 0);
+        Due.is("lay()", x.lay(), 1);
+        int[] counts = {6, 1, 1, 0, 0, 0, 0, 0, 0, 0, 0, 0, 12};
+        for (int i = 0; i < counts.length; i++) {
+            Due.is("laid behind trials: count(" + i + ")", x.count(i), counts[i]);
+        }
+        Due.is("no road is left", x.road(0, 1), NONE);
+        Due.is("no way is left", x.far(0, 1), NONE);
+        x.wipe();
+        Due.write(x, "n3;r0,1,1;r0,2,1;p0,0,0;w0,1;");
+        x.likely(0, 10, 0);
+        x.lay();
+        Due.is("not turned", x.arm(0, 1, 2), 1);
+        x.likely(0, 10, 0);
+        x.lay();
+        Due.is("not turned when laid again", x.arm(0, 1, 2), 1);
+        Due.is("it comes", x.comes(0), 1);
+    }
+
     private static void layRefused() {
         String[] texts = {"", "n4;", "p0,0,0;", "w0,1;", "p0,0,0;w0,1;x", "p0,0,0;w0,0;", "n4;p0,0,0;w0,4;"};
         for (String text : texts) {
@@ -294,6 +320,14 @@ public final class YardsTest {
         x.retire(3);
         for (int what = 0; what < 3; what++) {
             Due.is("arm of a retired one", x.arm(3, 4, what), NONE);
+        }
+        x.move(0, 3);
+        Due.is("an arm for town 0", x.arm(0, 4, 0), 4);
+        x.paint(0);
+        Due.is("an arm for town 0, painted", x.arm(0, 0, 0), 0);
+        x.retire(0);
+        for (int what = 0; what < 3; what++) {
+            Due.is("arm of a retired one for town 0", x.arm(0, 0, what), NONE);
         }
     }
 
