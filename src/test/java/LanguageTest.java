@@ -155,7 +155,7 @@ public final class LanguageTest {
         SignpostYard x = new SignpostYard();
         deepCalls(x);
         long before = room.getThreadAllocatedBytes(self);
-        for (int i = 0; i < 40; i++) {
+        for (int i = 0; i < 30; i++) {
             deepCalls(x);
         }
         long bytes = room.getThreadAllocatedBytes(self) - before;

@@ -40,6 +40,7 @@ public final class ModelTest {
                 deepAsk();
             }
         }
+        Due.holds("run " + run + " has no more calls than an object is used for: " + calls, calls <= 512);
     }
 
     private void compare(String call, int got, int want, int... with) {
@@ -59,15 +60,15 @@ public final class ModelTest {
     }
 
     private int town() {
-        return some(yard.count(0));
+        return some(model.count(0));
     }
 
     private int post() {
-        return some(yard.count(1));
+        return some(model.count(1));
     }
 
     private int walker() {
-        return some(yard.count(2));
+        return some(model.count(2));
     }
 
     private void layDrawn() {
@@ -244,20 +245,20 @@ public final class ModelTest {
 
     /** Mostly what is so of some town, now and then what is not. */
     private void tell() {
-        int x = random.nextInt(yard.count(0));
+        int x = random.nextInt(model.count(0));
         int y = town();
         int u = random.nextInt(8) == 0 ? town() : stepOf(x, y);
         int m = random.nextInt(8) == 0 ? some(73) : model.far(x, y);
         compare("told", yard.told(y, u, m), model.told(y, u, m), y, u, m);
         compare("stood", yard.stood(), model.stood());
         compare("next", yard.next(), model.next());
-        if (yard.stood() == 0) {
+        if (model.stood() == 0) {
             compare("forget", yard.forget(), model.forget());
         }
     }
 
     private int stepOf(int x, int y) {
-        for (int t = 0; t < yard.count(0); t++) {
+        for (int t = 0; t < model.count(0); t++) {
             if (t != x && model.road(x, t) > 0 && model.far(t, y) >= 0
                 && model.road(x, t) + model.far(t, y) == model.far(x, y)) {
                 return t;
@@ -271,7 +272,7 @@ public final class ModelTest {
         int y = town();
         int u = random.nextInt(4) == 0 ? town() : model.arm(p, y, 2);
         compare("seen", yard.seen(p, y, u), model.seen(p, y, u), p, y, u);
-        for (int i = 0; i < yard.count(1); i++) {
+        for (int i = 0; i < model.count(1); i++) {
             compare("kinds", yard.kinds(i), model.kinds(i), i);
         }
     }
