@@ -43,6 +43,7 @@ final class ComeEdges {
         coverFewest();
         coverLowest();
         coverLast();
+        coverOfAllTowns();
         coverOnlyTold();
         farToTheSame();
         farNoWay();
@@ -427,6 +428,12 @@ final class ComeEdges {
         cover(x, 2, 129);
         x.lays(0, 5, 4);
         cover(x, 1, 128);
+    }
+
+    private static void coverOfAllTowns() {
+        Edge.of(22, "of sets of TOWNS that one in each of which stands a PLAIN POST, PAINTED now");
+        cover(Due.laid("n8;r4,6,9;r0,6,8;r0,1,6;r1,7,9;r7,5,2;r5,3,8;r2,4,5;r2,3,5;p0,0,0;w3,6;w1,3;w3,1;w1,4;"), 8, 255);
+        cover(Due.laid("n5;r0,1,8;r1,2,7;r2,4,5;r0,3,6;r3,4,5;p0,0,0;w1,0;w3,0;w4,3;w0,1;w4,1;"), 5, 31);
     }
 
     private static void coverOnlyTold() {
